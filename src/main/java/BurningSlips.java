@@ -640,7 +640,6 @@ public final class BurningSlips {
                 put(firstLines, billCount, lines.count);
                 put(lineCounts, billCount, 0);
                 put(taken, billCount, 0);
-                put(slipCounts, billCount, 0);
                 billCount++;
             }
         }
@@ -1477,6 +1476,8 @@ public final class BurningSlips {
         private final int[] highestAtElse = new int[MOST_IFS_DEEP];
         private final int[] lacks = new int[MOST_SLIPS];
         private final int[] trail = new int[MOST_LINES];
+
+        // Of an if: 0 its else is still to be walked, 1 it need not be, 2 it is walked now.
         private final int[] settled = new int[MOST_LINES];
         private final int[] found = new int[NEEDS];
         private int trailCount;

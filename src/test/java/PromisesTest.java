@@ -13,6 +13,7 @@ public final class PromisesTest {
         promise03Sums();
         promise03Counts();
         promise03Stays();
+        promise03Again();
         promise04();
         promise05();
         promise06();
@@ -374,6 +375,21 @@ public final class PromisesTest {
         due("no bills", shop.slips.count(1), 0);
         due("no lines", shop.slips.count(2), 0);
         due("no such bill", shop.slips.bill(0, 1), -1);
+    }
+
+    /** One object reads tape behind tape: nothing of an old one is in the way. */
+    private static void promise03Again() {
+        Shop shop = new Shop();
+        String sum = times("a+", 30) + "a";
+        for (int k = 0; k < 90; k++) {
+            due("long one " + k, shop.tell("wall w 4;bill b;take a most;let b once w+" + sum + ";give b+" + sum + ";"), 0);
+            due("free of it", shop.free(0, 2), 4 + 4 * 31);
+            due("reads of it", shop.slips.reads(0, 0, 0), 62);
+            due("a fault " + k, shop.tell("bill b;take a once;let c once d+e+f+g+h+i+j+k+l+m"), 5 + 16 * 46);
+            due("short one", shop.tell("bill b;take a once;take b once;give a-b;"), 0);
+            due("takes", shop.slips.bill(0, 2), 2);
+            due("free of that", shop.free(0, 9, 2), 7);
+        }
     }
 
     private static void promise04() {
