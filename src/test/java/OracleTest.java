@@ -10,7 +10,7 @@ public final class OracleTest {
     private static int plain;
 
     public static void main(String[] args) {
-        int rounds = args.length > 0 ? Integer.parseInt(args[0]) : 4000;
+        int rounds = args.length > 0 ? Integer.parseInt(args[0]) : 10000;
         int seed = args.length > 1 ? Integer.parseInt(args[1]) : 1;
         Random random = new Random(seed);
         BillMaker maker = new BillMaker(random);
