@@ -7,6 +7,8 @@ final class Shop {
 
     static int wrong = 0;
 
+    private static String sentence = "";
+
     BurningSlips slips = new BurningSlips();
     String told = "";
 
@@ -14,7 +16,7 @@ final class Shop {
         if (got != want) {
             wrong++;
             if (wrong <= 40) {
-                System.out.println(what + " answered " + got + ", due is " + want);
+                System.out.println(what + " answered " + got + ", due is " + want + by());
             }
         }
     }
@@ -101,7 +103,56 @@ final class Shop {
         String got = machine();
         if (!got.equals(want)) {
             wrong++;
-            System.out.println("machine of " + told + " tells " + got + ", due is " + want);
+            System.out.println("machine of " + told + " tells " + got + ", due is " + want + by());
+        }
+    }
+
+    /** The words of the document that the checks behind them hold; DocumentTest looks for them there. */
+    static void says(String words) {
+        sentence = words;
+    }
+
+    private static String by() {
+        return sentence.isEmpty() ? "" : ", by: " + sentence;
+    }
+
+    /** A shop that has been told a text without a FAULT. */
+    static Shop with(String text) {
+        Shop shop = new Shop();
+        due("bills of " + text, shop.tell(text), 0);
+        return shop;
+    }
+
+    /** The FAULT of a text, by its kind and by what stands ahead of the wrong token. */
+    static void fault(int kind, String ahead, String rest) {
+        due("FAULT of " + ahead + "|" + rest, new Shop().tell(ahead + rest), kind + 16 * ahead.length());
+    }
+
+    static void good(String text) {
+        due("FAULT of " + text, new Shop().tell(text), 0);
+    }
+
+    /** What all calls that change nothing tell of what may be changed, in so few calls as will do. */
+    String all() {
+        StringBuilder text = new StringBuilder(machine());
+        text.append(" given ").append(given());
+        for (int slip = 0; slip < 10; slip++) {
+            text.append(' ').append(slip(slip));
+        }
+        for (int what = 0; what < 6; what++) {
+            text.append(' ').append(slips.count(what));
+        }
+        for (int bill = 0; bill < slips.count(1); bill++) {
+            text.append(" bill ").append(slips.bill(bill, 0)).append(' ').append(slips.bill(bill, 3));
+        }
+        return text.toString();
+    }
+
+    void allIs(String when, String want) {
+        String got = all();
+        if (!got.equals(want)) {
+            wrong++;
+            System.out.println(when + ": all tells " + got + ", due is " + want + by());
         }
     }
 }
