@@ -179,6 +179,13 @@ public final class EdgesOfTapeTest {
         due("no NAME", shop.slips.bills(), 1 + 16 * 4);
         due("empty again", shop.slips.count(5), 0);
         due("nothing of it is left", shop.tell(" c;give 1;"), 1 + 16);
+        // A WORD or NUMBER that a tape ends with has nothing behind it of a longer tape ahead.
+        due("letters", shop.tell("x".repeat(40)), 1);
+        due("a NAME at the end", shop.tell("bill abcdefgh"), 1 + 16 * 13);
+        due("digits", shop.tell("9".repeat(40)), 1);
+        due("a NUMBER at the end", shop.tell("wall w 1234"), 1 + 16 * 11);
+        due("signs", shop.tell(";".repeat(40)), 1);
+        due("a blank at the end", shop.tell("wall w 1234 "), 1 + 16 * 12);
     }
 
     private static void blanks() {

@@ -237,6 +237,9 @@ public final class EdgesOfWaysTest {
         due("of once", shop.slips.needs(0, 2), 1);
         due("of most", shop.slips.needs(1, 2), 0);
         due("of once again", shop.slips.needs(0, 3), 1);
+        shop = Shop.with("bill c;let a most 1;give 1;bill d;take a once;let b once 1;give 1;");
+        due("of most, ahead of once", shop.slips.needs(0, 3), 0);
+        due("of once, behind most", shop.slips.needs(1, 2), 2);
     }
 
     private static void taken() {

@@ -381,7 +381,7 @@ public final class PromisesTest {
     private static void promise03Again() {
         Shop shop = new Shop();
         String sum = times("a+", 30) + "a";
-        for (int k = 0; k < 90; k++) {
+        for (int k = 0; k < 18; k++) {
             due("long one " + k, shop.tell("wall w 4;bill b;take a most;let b once w+" + sum + ";give b+" + sum + ";"), 0);
             due("free of it", shop.free(0, 2), 4 + 4 * 31);
             due("reads of it", shop.slips.reads(0, 0, 0), 62);
